@@ -411,7 +411,7 @@ public final class MapMachine {
 
         /** Without a token NONE, which can stand nowhere: so the end is as WRONG as such a token. */
         int token(int place) {
-            return place >= 0 && place < tokenCount ? Rows.at(tokens, place) : NONE;
+            return place >= 0 && place < tokenCount && place < MOST_TOKENS ? tokens[place] : NONE;
         }
 
         int behind(int place) {
