@@ -603,17 +603,15 @@ public final class MapMachine {
         }
 
         private boolean knownFunction() {
-            if (program.hasFunction(program.token(next))) {
+            int f = program.token(next);
+            if (program.hasFunction(f)) {
                 next++;
                 return true;
             }
-            // Not there: then it is no number of a function at all, or one that is not known yet.
-            boolean number = bare(FUNCTIONS);
-            if (number) {
-                next--;
-                fail(UNKNOWN);
+            if (!program.hasToken(next)) {
+                return fail(WRONG);
             }
-            return false;
+            return fail(f < 0 || f >= FUNCTIONS ? NUMBER : UNKNOWN);
         }
 
         /** S*: what stands behind them is for the caller to judge. */
@@ -636,12 +634,29 @@ public final class MapMachine {
                 case Token.IF: good = choice(depth); break;
                 case Token.WHILE: good = repetition(depth); break;
                 case Token.EACH: good = eachKey(depth); break;
-                case Token.ANSWER: good = answer(depth); break;
-                case Token.CALL: good = callAlone(depth); break;
+                case Token.ANSWER:
+                    next++;
+                    good = numberPart(depth + 1);
+                    break;
                 default: good = plain(depth); break;
             }
-            program.setBehind(place, next);
+            if (good) {
+                finishStatement(place);
+            }
             return good;
+        }
+
+        private void finishStatement(int place) {
+            program.setBehind(place, next);
+            int token = program.token(place);
+            if (token == Token.CALL) {
+                program.emit(Word.DROP);
+            } else if (token == Token.ANSWER && inMain) {
+                program.emit(Word.DROP);
+                program.emit(Word.STOP);
+            } else if (token == Token.ANSWER) {
+                program.emit(Word.BACK);
+            }
         }
 
         private boolean choice(int depth) {
@@ -704,28 +719,6 @@ public final class MapMachine {
             program.emit(Word.GO);
             program.emit(again);
             program.fillHole(hole);
-            return true;
-        }
-
-        private boolean answer(int depth) {
-            next++;
-            if (!numberPart(depth + 1)) {
-                return false;
-            }
-            if (inMain) {
-                program.emit(Word.DROP);
-                program.emit(Word.STOP);
-            } else {
-                program.emit(Word.BACK);
-            }
-            return true;
-        }
-
-        private boolean callAlone(int depth) {
-            if (!plain(depth)) {
-                return false;
-            }
-            program.emit(Word.DROP);
             return true;
         }
 
@@ -1053,8 +1046,8 @@ public final class MapMachine {
      */
     private static final class Trees {
         private static final int DEEPEST = MOST_ROOM + 1;
-        /** Each union that makes a cell leaves two to do, and no more than ROOM cells are made. */
-        private static final int UNIONS = 2 * MOST_ROOM + 2;
+        /** Each union that is done makes a cell and leaves two at most: one more waits than cells are made. */
+        private static final int UNIONS = MOST_ROOM + 2;
 
         private final Cells cells;
         private final int[] firsts = new int[UNIONS];
