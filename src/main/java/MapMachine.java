@@ -345,7 +345,7 @@ public final class MapMachine {
         private static final int NOT_THERE = -1;
 
         private final int[] tokens = new int[MOST_TOKENS];
-        /** Of a token that begins an S, E or M: the place behind all of it. */
+        /** Of a token that begins an S or E: the place behind all of it. */
         private final int[] behind = new int[MOST_TOKENS];
         /** Of an IF: the place of its ELSE, of its END if it has none. */
         private final int[] turn = new int[MOST_TOKENS];
@@ -389,7 +389,6 @@ public final class MapMachine {
         }
 
         void refuse(int place) {
-            forgetCode();
             fault = place;
         }
 
@@ -524,7 +523,6 @@ public final class MapMachine {
                 return fault;
             }
             if (program.emitted() > MOST_WORDS) {
-                program.forgetCode();
                 return CODE_FULL;
             }
             program.accept();
@@ -737,16 +735,13 @@ public final class MapMachine {
         }
 
         private boolean mapPart(int depth) {
-            int place = next;
-            if (!Token.isMap(program.token(place))) {
+            if (!Token.isMap(program.token(next))) {
                 return fail(WRONG);
             }
             if (depth >= MOST_DEPTH) {
                 return fail(DEEP);
             }
-            boolean good = plain(depth);
-            program.setBehind(place, next);
-            return good;
+            return plain(depth);
         }
 
         private boolean shortcut(int depth) {
@@ -843,7 +838,6 @@ public final class MapMachine {
         void furnish(int newSeed, int newRoom) {
             seed = newSeed;
             room = newRoom;
-            giveBackAll();
         }
 
         void giveBackAll() {

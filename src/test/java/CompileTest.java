@@ -118,6 +118,16 @@ public final class CompileTest {
         gives(row(16, 0, 18, 1, 0, 17, 0), 10, 0, 0, 8, 0, 0, 11, 0);
         gives(row(1, 0, 17, 1, 0, 17, 1, 4, 1, 5, 1, 6, 16, 7, 15, 0),
             10, 7, 3, 0, 10, 0, 2, 0, 11, 7, 36, 7, 20, 4, 20, 5, 20, 6, 0);
+        // eight functions are all there are
+        int[] eight = {};
+        for (int f = 0; f < 8; f++) {
+            eight = Feed.joined(eight, row(10, f, f % 4, 0));
+        }
+        MapMachine all = Feed.fed(Feed.joined(eight, row(11, 0)));
+        Check.due("eight functions", all.compile(), 25);
+        fault(MapMachine.TWICE, 33, Feed.joined(eight, row(10, 5, 0, 0, 11, 0)));
+        fault(MapMachine.NUMBER, 33, Feed.joined(eight, row(10, 8, 0, 0, 11, 0)));
+        fault(MapMachine.WRONG, 33, Feed.joined(eight, row(10)));
         // what a compile() before knew is known no more
         MapMachine x = Feed.compiled(10, 0, 0, 0, 11, 0);
         Check.holds("compiles once more", x.compile() > 0);

@@ -10,6 +10,7 @@ public final class StacksTest {
         numbersWaiting();
         mapsWaiting();
         loopsInLoops();
+        nothingStays();
         Check.finish();
     }
 
@@ -78,5 +79,28 @@ public final class StacksTest {
         }
         f.addAll(List.of(4, 9, 20, 1, 0, 0));
         doBothWays("loops in loops", program(f, 11, 2, 0, 42, 41, 20, 5, 20, 6, 8, 0, 21, 0, 0));
+    }
+
+    /** A thousand calls, answers and loops left by 9, one behind the other: none leaves anything behind. */
+    private static void nothingStays() {
+        Both both = new Both("one behind the other");
+        both.feed(10, 0, 1, 6, 0, 9, 10, 9, 21, 8, 0, 0,
+            11, 2, 0, 42, 41, 20, 5, 20, 6, 1, 1, 20, 350, 5, 21, 1,
+            8, 0, 20, 1, 8, 0, 20, 2, 8, 0, 20, 3, 1, 1, 23, 21, 1, 20, 1, 0,
+            7, 22, 20, 1, 22, 20, 2, 36, 0, 20, 4, 7, 34, 40, 0, 0);
+        Check.holds("it compiles", both.compile() > 0);
+        both.start(0);
+        for (int i = 0; i < 5; i++) {
+            both.run(5000);
+            both.askCounts();
+        }
+        Check.due("end", both.machine.count(7), MapMachine.DONE);
+        both.askAll();
+        both.interpret(0, 5000);
+        both.askAll();
+        MapMachine x = Feed.compiled(10, 0, 0, 0, 11, 1, 1, 20, 440, 5, 21, 1, 8, 0, 8, 0, 8, 0, 1, 1, 23, 21, 1, 20, 1, 0,
+            7, 22, 20, 1, 20, 2, 0);
+        Check.due("interpret", x.interpret(0, 5000), MapMachine.DONE);
+        Check.due("told", x.out(0), 3);
     }
 }

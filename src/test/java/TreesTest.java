@@ -9,6 +9,7 @@ public final class TreesTest {
 
     public static void main(String[] args) {
         chains();
+        byChance();
         justWideEnough();
         uselessCellsCount();
         liveMaps();
@@ -99,6 +100,46 @@ public final class TreesTest {
             doBothWays(both);
             Check.holds("a deep tree", both.machine.map(0, 0, 0) > (cheap ? 200 : 90));
         }
+    }
+
+    /**
+     * For ever: variable 1 goes on by chance, 2 is the key; map 0 gets or loses the key, map 1 is seldom
+     * their union, or starts anew, or loses the greatest key that is not greater than 2.
+     */
+    private static int[] changing(int keys) {
+        return new int[] {11, 1, 1, 21, 0, 5, 20, 1,
+            1, 1, 22, 24, 21, 1, 20, 1103515245, 20, 12345,
+            1, 2, 26, 25, 21, 1, 20, 65536, 20, keys,
+            1, 3, 26, 25, 21, 1, 20, 1024, 20, 32,
+            3, 27, 21, 3, 20, 0, 2, 0, 43, 40, 0, 35, 40, 0, 21, 2, 21, 2,
+            4, 2, 0, 42, 40, 0, 21, 2, 21, 1, 0,
+            3, 28, 21, 3, 20, 9, 2, 1, 44, 40, 1, 40, 0, 0,
+            3, 28, 21, 3, 20, 10, 2, 0, 44, 40, 0, 40, 1, 0,
+            3, 28, 21, 3, 20, 11, 2, 1, 41, 0,
+            3, 27, 20, 20, 21, 3, 2, 1, 43, 40, 1, 35, 40, 1, 21, 2, 21, 2, 0,
+            3, 28, 21, 3, 20, 12, 7, 34, 40, 1, 7, 32, 40, 0, 21, 2, 0,
+            0, 0};
+    }
+
+    private static void byChance() {
+        int[] ends = new int[7];
+        for (int i = 0; i < 60; i++) {
+            Both both = new Both("by chance " + i);
+            both.init(i * 7919, i % 3 == 0 ? 8 + i : 400);
+            both.feed(changing(3 + i * 2));
+            Check.holds("it compiles", both.compile() > 0);
+            both.start(i);
+            for (int k = 0; k < 12; k++) {
+                both.run(499);
+                both.askAll();
+            }
+            ends[both.machine.count(7)]++;
+            for (int n = 10; n <= 5000; n += 499) {
+                both.interpret(i, n);
+                both.askAll();
+            }
+        }
+        Check.holds("some go on, some heaps are full", ends[MapMachine.OUT_OF_FUEL] > 20 && ends[MapMachine.OUT_OF_HEAP] > 5);
     }
 
     /** With seed 0 and keys 1 .. 10 put in order: which ROOM is enough is the Model's to say, for each ROOM. */
