@@ -102,5 +102,7 @@ public final class StacksTest {
             7, 22, 20, 1, 20, 2, 0);
         Check.due("interpret", x.interpret(0, 5000), MapMachine.DONE);
         Check.due("told", x.out(0), 3);
+        // 1 20, 5, in each round 21, 8 8 8, 1 23 21 20; 21 once more, 7 22 20 20
+        Check.due("steps", x.count(2), 2 + 1 + 440 * 8 + 1 + 4);
     }
 }
