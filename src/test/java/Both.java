@@ -47,6 +47,23 @@ final class Both {
         }
     }
 
+    /** One question by its number: 1, 2 a map, 3 a number told and a variable, 4 a word and a count. */
+    void askOne(int question, int a, int b, int c) {
+        switch (question) {
+            case 1: due("map(" + a + ", " + b + ", " + c + ")", machine.map(a, b, c), model.map(a, b, c)); break;
+            case 2: due("map(" + a % 4 + ", " + b % 4 + ", " + c + ")", machine.map(a % 4, b % 4, c), model.map(a % 4, b % 4, c)); break;
+            case 3:
+                due("out(" + a + ")", machine.out(a), model.out(a));
+                due("variable(" + a + ")", machine.variable(a), model.variable(a));
+                break;
+            default:
+                due("code(" + a + ")", machine.code(a), model.code(a));
+                due("count(" + a + ")", machine.count(a), model.count(a));
+                due("place()", machine.place(), model.place());
+                break;
+        }
+    }
+
     void askCounts() {
         for (int what = -1; what <= 8; what++) {
             due("count(" + what + ")", machine.count(what), model.count(what));

@@ -12,6 +12,9 @@ public final class ModelTest {
         for (int i = first; i < first + programs && Check.wrong() == 0; i++) {
             oneProgram(i, new Random(i), ends, answers);
         }
+        for (int i = first; i < first + programs / 10 && Check.wrong() == 0; i++) {
+            wildCalls(i, new Random(i));
+        }
         StringBuilder text = new StringBuilder("ends:");
         for (int end : ends) {
             text.append(' ').append(end);
@@ -47,6 +50,47 @@ public final class ModelTest {
         leaveByChance(both, random);
         both.askAll();
         both.askCode();
+    }
+
+    /** 512 calls in any order with any arguments, about a program that may or may not be there. */
+    private static void wildCalls(int number, Random random) {
+        Both both = new Both("wild calls " + number);
+        int[] program = Programs.make(random, 60 + random.nextInt(200));
+        int fed = 0;
+        for (int i = 0; i < 512; i++) {
+            if (fed < program.length && random.nextInt(40) != 0) {
+                both.feed(program[fed]);
+                fed++;
+                continue;
+            }
+            switch (random.nextInt(12)) {
+                case 0: case 1: both.compile(); break;
+                case 2: both.start(wild(random)); break;
+                case 3: case 4: both.run(wild(random)); break;
+                case 5: both.interpret(wild(random), wild(random)); break;
+                case 6: both.askOne(1, wild(random), wild(random), wild(random)); break;
+                case 7: both.askOne(2, wild(random), wild(random), wild(random)); break;
+                case 8: both.askCounts(); break;
+                case 9: both.askOne(3, wild(random), 0, 0); break;
+                case 10: both.askOne(4, wild(random), 0, 0); break;
+                default: wildChange(both, random); break;
+            }
+        }
+        both.askAll();
+        both.askCode();
+    }
+
+    private static void wildChange(Both both, Random random) {
+        if (random.nextInt(6) == 0) {
+            both.feed(wild(random));
+        } else if (random.nextInt(8) == 0) {
+            both.init(wild(random), wild(random));
+        }
+    }
+
+    private static int wild(Random random) {
+        int[] edges = {0, 1, -1, 2, 3, 4, 7, 8, 300, 400, 401, 5000, 5001, 2147483647, -2147483648};
+        return random.nextBoolean() ? edges[random.nextInt(edges.length)] : random.nextInt(400);
     }
 
     private static int room(Random random) {
