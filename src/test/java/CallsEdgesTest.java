@@ -330,6 +330,16 @@ public final class CallsEdgesTest {
         good.feed(0);
         Check.due("a fault behind a program without one", good.compile(), MapMachine.WRONG);
         nothingCompiled("a fault behind a program without one", good);
+        // a function is compiled as a function, once more too: 9 is its answer, and no end
+        Careful again = Careful.with(10, 0, 0, 9, 20, 5, 0, 11, 7, 36, 0, 9, 20, 1, 0);
+        for (int i = 0; i < 3; i++) {
+            Check.due("words", again.compile(), 14);
+            Check.due("9 in a function", again.code(2), 17);
+            Check.due("9 in MAIN", again.code(11), 18);
+            again.start(0);
+            Check.due("run", again.run(100), MapMachine.DONE);
+            Check.due("told", again.out(0), 5);
+        }
         Careful later = fed(11);
         Check.due("too early", later.compile(), MapMachine.WRONG);
         later.feed(0);

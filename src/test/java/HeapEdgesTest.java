@@ -32,6 +32,7 @@ public final class HeapEdgesTest {
         unionOfSameTop();
         unionAbove();
         splitOfNoUse();
+        moreCellsThanRoom();
         roomOfOne();
         allVariablesAreLive();
         callsUnderWayAreLive();
@@ -99,6 +100,11 @@ public final class HeapEdgesTest {
         }
         topOfTwo("rank without sign", 0, 1, 7);
         topOfTwo("rank without sign", 0, 0, 15);
+        // 214d4dbc and 214d7a10, 81f22c63 and 81f2821f, 5ae40d77 and 5ae40f92, aad71672 and aad7d78b
+        topOfTwo("ranks that are close", 0, 1198, 808);
+        topOfTwo("ranks that are close", 0, 987, 330);
+        topOfTwo("ranks that are close", 0, 798, 1135);
+        topOfTwo("ranks that are close", 0, 501, 868);
     }
 
     /** "x is it xor the seed" */
@@ -245,6 +251,36 @@ public final class HeapEdgesTest {
         int[] before = Feed.joined(fill(0, 10, 2), fill(1, 6, 4));
         makes("SPLIT makes cells of no use", 4, 5, 8, before, 2, 3, 44, 40, 0, 40, 1).most(5).map(3, 2, 20, 4, 40, 6, 60, 10, 100);
         makes("SPLIT makes cells of no use", 4, 5, 8, before, 2, 3, 44, 40, 1, 40, 0).most(5).map(3, 2, 20, 4, 40, 6, 60, 10, 100);
+    }
+
+    /** "When PUT, WITHOUT, UNION make n cells": n alone may be more than ROOM. */
+    private static void moreCellsThanRoom() {
+        topOfTwo("6 is above 29", 0, 29, 6);
+        topOfTwo("29 is above 21", 0, 21, 29);
+        topOfTwo("21 is above 13", 0, 13, 21);
+        // 6( , 13) and 29(21, ): 6, 29 and 21 anew; then 13 and 29(21, ): 29 and 13; then 13 and 21: 21 and 13
+        int[] two = Feed.joined(fill(0, 13, 6), fill(1, 21, 29));
+        makes("more cells than the result has", 4, 7, 8, two, 2, 3, 44, 40, 0, 40, 1).most(7).top(3, 6).map(3, 6, 60, 13, 130, 21, 210, 29, 290);
+        for (int room = 5; room <= 10; room++) {
+            overAndOver(room, two, 4);
+        }
+        // a union of keys that lie between one another makes 18, 22 and 29 cells; to have the two takes 8, 9 and 11 at once
+        overAndOver(8, Feed.joined(fill(0, 19, 9, 8), fill(1, 13, 21, 26, 28)), 7);
+        overAndOver(9, Feed.joined(fill(0, 19, 20, 21, 24, 29), fill(1, 18, 7, 2)), 8);
+        for (int room = 11; room <= 28; room++) {
+            overAndOver(room, Feed.joined(fill(0, 11, 18, 24, 26), fill(1, 16, 20, 9, 7, 6, 4)), 10);
+        }
+    }
+
+    /** With arg 1 the union of the two is too much; what a run with arg 0 does then is as if that had not been. */
+    private static void overAndOver(int room, int[] two, int live) {
+        int[] program = mainPart(row(3, 21, 0), two, row(7, 20, 1, 2, 3, 44, 40, 0, 40, 1),
+            row(4, 2, 0, 44, 42, 41, 20, 7, 20, 1, 42, 41, 20, 2, 20, 2, 0));
+        Edge edge = Edge.of("a union of too many cells in ROOM " + room).init(0, room).program(program);
+        for (int i = 0; i < 3; i++) {
+            edge.ends(MapMachine.OUT_OF_HEAP, 1).tells(1).live(live, live).keyCount(3, 0);
+            edge.done().tells().live(2, 2).most(2).map(0, 2, 2, 7, 1);
+        }
     }
 
     // ---- live

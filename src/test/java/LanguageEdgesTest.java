@@ -27,6 +27,7 @@ public final class LanguageEdgesTest {
         isThereThatKey();
         howManyKeys();
         greatestKeyNotGreater();
+        everyKeyOfATree();
         answerAtTheEnd();
         withThatKey();
         withoutThatKey();
@@ -48,8 +49,13 @@ public final class LanguageEdgesTest {
         mainsOwn();
         workedOutInItsOrder();
         orderSeenByChanges();
+        whatWaits();
         stackFull();
+        numbersWaitingInCalls();
+        mapsWaitingInCalls();
+        deepInEachCall();
         callsOneBehindTheOther();
+        leftInTheMiddle();
         outFull();
         atItsEnd();
         Check.finish();
@@ -253,6 +259,27 @@ public final class LanguageEdgesTest {
         }
         Edge.of("the second one is worked out all the same")
             .program(11, 7, 35, 42, 41, 20, 5, 20, 0, 20, 5, 25, 20, 1, 20, 0, 0).ends(MapMachine.DIV_ZERO, 0).tells();
+    }
+
+    /** A tree with keys on both sides of its top, and each key that there may be. */
+    private static void everyKeyOfATree() {
+        int[] keys = {2, 4, 6, 8, 10, 12, 14};
+        int[] filling = {11};
+        for (int key : keys) {
+            filling = Feed.joined(filling, row(2, 0, 42, 40, 0, 20, key, 20, 100 + key));
+        }
+        int[] telling = row(1, 1, 20, 1, 5, 27, 21, 1, 20, 16, 7, 32, 40, 0, 21, 1, 7, 33, 40, 0, 21, 1, 7, 35, 40, 0, 21, 1, 20, -5,
+            1, 1, 22, 21, 1, 20, 1, 0, 0);
+        int[] want = new int[45];
+        for (int n = 1; n <= 15; n++) {
+            boolean there = n % 2 == 0;
+            want[3 * n - 3] = there ? 100 + n : 0;
+            want[3 * n - 2] = there ? 1 : 0;
+            want[3 * n - 1] = n == 1 ? -5 : n - n % 2;
+        }
+        for (int seed = 0; seed < 8; seed++) {
+            Edge.of("32, 33 and 35 of every key").init(seed, 300).program(Feed.joined(filling, telling)).done().tells(want);
+        }
     }
 
     private static void answerAtTheEnd() {
@@ -521,6 +548,28 @@ public final class LanguageEdgesTest {
         done(sentence, 7, withFunctions(8, 6, 21, 0, 36, 5, 21, 0)).tells(7, 1, 100);
     }
 
+    /** What was worked out and waits is not touched by what comes between. */
+    private static void whatWaits() {
+        String sentence = "what waits is used by its own token alone";
+        Edge.worth(sentence, 4, 23, 20, 5, 34, 42, 41, 20, 1, 20, 2);
+        Edge.worth(sentence, 4, 23, 20, 5, 34, 43, 42, 41, 20, 1, 20, 2, 20, 9);
+        Edge.worth(sentence, 5, 23, 20, 5, 34, 43, 42, 41, 20, 1, 20, 2, 20, 1);
+        Edge.worth(sentence, 3, 23, 20, 5, 34, 44, 42, 41, 20, 1, 20, 2, 42, 41, 20, 3, 20, 4);
+        Edge.worth(sentence, 3, 23, 20, 5, 32, 42, 41, 20, 1, 20, 2, 20, 1);
+        Edge.worth(sentence, 4, 23, 20, 5, 33, 42, 41, 20, 1, 20, 2, 20, 1);
+        Edge.worth(sentence, 2, 23, 20, 5, 35, 42, 41, 20, 3, 20, 4, 20, 7, 20, 8);
+        Edge.worth(sentence, 4, 23, 20, 5, 30, 20, 3, 20, 4);
+        Edge.worth(sentence, 5, 23, 20, 5, 30, 20, 0, 20, 4);
+        Edge.worth(sentence, 4, 23, 20, 5, 31, 20, 3, 20, 4);
+        Edge.worth(sentence, 4, 23, 20, 5, 31, 20, 0, 20, 4);
+        // a map waits while others are made and used
+        done(sentence, 0, 11, 2, 0, 42, 42, 41, 20, 1, 20, 2, 34, 42, 42, 41, 20, 5, 20, 6, 20, 7, 20, 8, 32, 42, 41, 20, 3, 20, 9, 20, 3, 0)
+            .map(0, 1, 2, 2, 9);
+        // and while a function is called that goes over maps, and answers from within
+        done(sentence, 0, 10, 0, 0, 2, 4, 42, 42, 41, 20, 5, 20, 6, 20, 7, 20, 8, 6, 4, 8, 9, 9, 21, 9, 0, 0,
+            11, 7, 23, 20, 10, 36, 0, 2, 0, 42, 42, 41, 20, 1, 36, 0, 36, 0, 24, 36, 0, 36, 0, 0).tells(4).map(0, 1, 6, 6, 36);
+    }
+
     // ---- ENDS
 
     /** f of n calls f of n - 1 till n is 0, by 8 or by 36, and tells n on the way back. */
@@ -543,8 +592,67 @@ public final class LanguageEdgesTest {
             .ends(MapMachine.DIV_ZERO, 0).calls(24);
     }
 
+    /** Function 0 goes one deeper as long as variable 0 is not 0. */
+    private static int[] deeper(int[]... statements) {
+        return Feed.joined(row(10, 0, 0, 3, 21, 0, 1, 0, 23, 21, 0, 20, 1), Feed.joined(statements), row(0, 0));
+    }
+
+    /** In each of 23 calls two parameters wait at each of 13 depths for a third, which is what the next call answers. */
+    private static void numbersWaitingInCalls() {
+        int[] adding = row(10, 1, 3, 9, 22, 21, 8, 22, 21, 9, 21, 10, 0);
+        int[] program = Feed.joined(adding, deeper(row(9), Feed.repeated(13, 36, 1, 20, 1, 20, 1), row(36, 0)), row(11, 7, 36, 0, 0));
+        Edge.of("numbers that wait in 24 calls").program(program).ends(MapMachine.DONE, 23).tells(598);
+        Edge.of("numbers that wait in 25 calls").program(program).ends(MapMachine.STACK_FULL, 24).tells();
+    }
+
+    /** In each of 23 calls 13 maps wait for a value, which is what the next call answers, and one more. */
+    private static void mapsWaitingInCalls() {
+        int[] program = Feed.joined(
+            deeper(row(2, 4), Feed.repeated(12, 44, 41), row(42, 41, 20, 1, 36, 0), row(9, 22, 20, 1, 32, 40, 4, 20, 1)), row(11, 7, 36, 0, 0));
+        Edge.of("maps that wait in 24 calls").program(program).ends(MapMachine.DONE, 23).tells(23);
+        Edge.of("maps that wait in 25 calls").program(program).ends(MapMachine.STACK_FULL, 24).tells();
+    }
+
+    /** In MAIN and in each of 24 calls 16 tokens are begun, one within the other. */
+    private static void deepInEachCall() {
+        int[] nest = Feed.joined(Feed.repeated(6, 3, 20, 1), row(7), Feed.repeated(7, 29));
+        int[] program = Feed.joined(
+            deeper(nest, row(36, 0), Feed.repeated(6, 0), row(4), nest, row(20, 1), Feed.repeated(6, 0)),
+            row(11, 3, 20, 1), nest, row(36, 0), Feed.repeated(7, 0), row(0));
+        int[] want = new int[25];
+        java.util.Arrays.fill(want, 1, 25, 1);
+        Edge.of("16 tokens deep in 24 calls").program(program).ends(MapMachine.DONE, 23).tells(want);
+        Edge.of("16 tokens deep in 25 calls").program(program).ends(MapMachine.STACK_FULL, 24).tells();
+    }
+
+    /** However often it was left in the middle, with all that waited there: it begins anew. */
+    private static void leftInTheMiddle() {
+        int[] program = Feed.joined(deeper(row(9), Feed.repeated(10, 22, 20, 1), row(34), row(42, 42, 41, 20, 1, 20, 1, 20, 2, 36, 0)),
+            row(11, 2, 0, 42, 41, 20, 5, 20, 6, 6, 0, 1, 2, 7, 36, 0, 0, 0));
+        Edge edge = Edge.of("left in the middle").program(program);
+        for (int i = 0; i < 30; i++) {
+            edge.ends(MapMachine.STACK_FULL, 24);
+        }
+        // each call that goes deeper answers 10 and how many keys its map has, which is 2
+        edge.ends(MapMachine.DONE, 23).tells(12).live(1, 1);
+        Careful x = Careful.with(program);
+        for (int i = 0; i < 100; i++) {
+            Check.due("left in the middle", x.interpret(24, 300 + i), MapMachine.OUT_OF_FUEL);
+            x.start(24);
+            Check.due("left in the middle", x.run(300 + i), MapMachine.OUT_OF_FUEL);
+        }
+        Check.due("begun anew", x.interpret(23, 5000), MapMachine.DONE);
+        Check.due("begun anew", x.out(0), 12);
+        x.start(23);
+        Check.due("begun anew", x.run(5000), MapMachine.DONE);
+        Check.due("begun anew", x.out(0), 12);
+    }
+
     private static void callsOneBehindTheOther() {
         String sentence = "calls that came back are not under way";
+        // 1350 calls: from the tokens 27 21 21, 8 8 8, 1 22 21 20 in each round, which is less than 5000 steps in all
+        done(sentence, 450, 10, 0, 0, 0, 11, 5, 27, 21, 1, 21, 0, 8, 0, 8, 0, 8, 0, 1, 1, 22, 21, 1, 20, 1, 0,
+            7, 21, 1, 7, 22, 20, 1, 20, 2, 0).tells(450, 3).calls(0);
         done(sentence, 0, 10, 0, 0, 9, 20, 1, 0, 10, 1, 0, 8, 0, 0,
             11, 1, 1, 20, 100, 5, 21, 1, 8, 1, 8, 0, 1, 1, 23, 21, 1, 36, 0, 0, 7, 20, 3, 0).tells(3).calls(0);
     }
