@@ -1023,7 +1023,7 @@ public final class MapMachine {
         }
 
         int nth(int tree, int n) {
-            if (n < 0) {
+            if (n < 0 || n >= TAKABLE) {
                 return 0;
             }
             int cell = least(tree, BEFORE_ALL_KEYS);

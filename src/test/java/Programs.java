@@ -21,7 +21,11 @@ final class Programs {
 
     static int[] make(Random random, int most) {
         Programs maker = new Programs(random, most);
-        maker.program();
+        if (random.nextInt(30) == 0) {
+            maker.manyWords();
+        } else {
+            maker.program();
+        }
         if (random.nextInt(6) == 0) {
             maker.spoil();
         }
@@ -47,6 +51,22 @@ final class Programs {
         }
         for (int i = 0; i < 60 && tokens.size() < most && random.nextInt(12) != 0; i++) {
             statement(0);
+        }
+        add(0);
+    }
+
+    /** Some 1200 to 2100 words: each 30 and 31 becomes eight. */
+    private void manyWords() {
+        add(11);
+        int statements = 9 + random.nextInt(8);
+        for (int i = 0; i < statements; i++) {
+            add(7);
+            for (int j = 0; j < 13; j++) {
+                add(30 + random.nextInt(2));
+            }
+            for (int j = 0; j < 14; j++) {
+                add(20, random.nextInt(2));
+            }
         }
         add(0);
     }
@@ -211,11 +231,13 @@ final class Programs {
 
     private void spoil() {
         int at = random.nextInt(tokens.size());
-        switch (random.nextInt(5)) {
+        switch (random.nextInt(7)) {
             case 0: tokens.set(at, random.nextInt(48) - 2); break;
             case 1: tokens.remove(at); break;
             case 2: tokens.add(at, random.nextInt(48) - 2); break;
             case 3: tokens.add(random.nextInt(48) - 2); break;
+            case 4: tokens.addAll(0, List.of(10, random.nextInt(8), 0, 0)); break;
+            case 5: tokens.addAll(tokens.size() - 1, List.of(8, random.nextInt(8))); break;
             default: tokens.subList(at, tokens.size()).clear(); break;
         }
     }
